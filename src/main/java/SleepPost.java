@@ -1532,14 +1532,13 @@ public final class SleepPost {
             int names = names(world, sleeper, house, 0);
             if (reckoner.value(town.laws, Laws.DROP, names) > 0) {
                 world.putDown(sleeper);
-            } else if (wakes(world, sleeper, names)) {
+            } else if (wakes(world, sleeper, reckoner.value(town.laws, Laws.WAKE, names))) {
                 world.woken |= 1 << sleeper;
                 world.putDown(sleeper);
             }
         }
 
-        private boolean wakes(World world, int sleeper, int names) {
-            long wake = reckoner.value(town.laws, Laws.WAKE, names);
+        private boolean wakes(World world, int sleeper, long wake) {
             if (wake == ERROR) {
                 return noise[world.at[sleeper]] > deep[sleeper];
             }
