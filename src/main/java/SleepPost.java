@@ -286,34 +286,16 @@ public final class SleepPost {
         if (!areSingers(one, other)) {
             return NONE;
         }
-        tries.sing(town, one, other);
-        int rests = 0;
-        for (int first = 0; first < town.houses; first++) {
-            for (int second = 0; second < town.houses; second++) {
-                rests += tries.isRest(town, first, second) ? 1 : 0;
-            }
-        }
-        return rests;
+        tries.findRests(town, one, other);
+        return tries.rests;
     }
 
     public int rest(int one, int other, int k) {
         if (!areSingers(one, other) || k < 0) {
             return NONE;
         }
-        tries.sing(town, one, other);
-        int rests = 0;
-        for (int first = 0; first < town.houses; first++) {
-            for (int second = 0; second < town.houses; second++) {
-                if (!tries.isRest(town, first, second)) {
-                    continue;
-                }
-                if (rests == k) {
-                    return 10 * first + second;
-                }
-                rests++;
-            }
-        }
-        return NOT_SO;
+        tries.findRests(town, one, other);
+        return k < tries.rests ? tries.restHouses[k] : NOT_SO;
     }
 
     public int brought(int house) {
@@ -524,7 +506,6 @@ public final class SleepPost {
             Arrays.fill(bells, 0);
             Arrays.fill(singers, 0);
             laws.clear();
-            measure(ways, far);
         }
 
         void addStreet(int one, int other, int length) {
@@ -1650,6 +1631,8 @@ public final class SleepPost {
         private final int[] dreamtPlaces = new int[HOURS];
         private final int[] firstHas = new int[HOUSES * HOUSES];
         private final int[] secondHas = new int[HOUSES * HOUSES];
+        final int[] restHouses = new int[HOUSES * HOUSES];
+        int rests;
 
         Tries(World now, Night night, Sights sights) {
             this.now = now;
@@ -1659,10 +1642,6 @@ public final class SleepPost {
 
         void goTonight(Town town) {
             night.suit(town, now);
-            finishNight();
-        }
-
-        private void finishNight() {
             trial.become(now);
             night.walkTo(trial, HOURS - 1);
         }
@@ -1785,14 +1764,29 @@ public final class SleepPost {
             return Integer.bitCount(dreamtPlaces[hour]);
         }
 
+        /** The RESTS of CORNERS, each as ten times the first one's HOUSE and the second one's. */
+        void findRests(Town town, int one, int other) {
+            sing(town, one, other);
+            rests = 0;
+            for (int first = 0; first < town.houses; first++) {
+                for (int second = 0; second < town.houses; second++) {
+                    if (isRest(town, first, second) && rests < restHouses.length) {
+                        restHouses[rests] = 10 * first + second;
+                        rests++;
+                    }
+                }
+            }
+        }
+
         /** What the two SINGERS have, by the first one's, then the second one's HOUSE. */
-        void sing(Town town, int one, int other) {
+        private void sing(Town town, int one, int other) {
             night.suit(town, now);
             for (int first = 0; first < town.houses; first++) {
                 for (int second = 0; second < town.houses; second++) {
                     night.noise[first] += one;
                     night.noise[second] += other;
-                    finishNight();
+                    trial.become(now);
+                    night.walkTo(trial, HOURS - 1);
                     night.noise[first] -= one;
                     night.noise[second] -= other;
                     int share = first == second ? 2 : 1;
@@ -1810,7 +1804,7 @@ public final class SleepPost {
             return listeners;
         }
 
-        boolean isRest(Town town, int first, int second) {
+        private boolean isRest(Town town, int first, int second) {
             int here = first * HOUSES + second;
             for (int house = 0; house < town.houses; house++) {
                 if (firstHas[house * HOUSES + second] > firstHas[here]

@@ -19,11 +19,14 @@ public final class AgainstPlainTest {
         told.append("run ").append(run).append(':');
     }
 
+    /** Other runs than the usual ones: java AgainstPlainTest FIRST HOW_MANY. */
     public static void main(String[] args) {
-        for (int run = 0; run < RUNS; run++) {
+        int first = args.length > 0 ? Integer.parseInt(args[0]) : 0;
+        int runs = args.length > 1 ? Integer.parseInt(args[1]) : RUNS;
+        for (int run = first; run < first + runs; run++) {
             new AgainstPlainTest(run).go();
         }
-        for (int run = 0; run < 4000; run++) {
+        for (int run = first; run < first + 16 * runs; run++) {
             new AgainstPlainTest(1000000 + run).tell(true);
         }
         Check.end("AgainstPlainTest");

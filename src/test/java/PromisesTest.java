@@ -33,10 +33,12 @@ public final class PromisesTest {
         brought();
         costAndNeed();
         chance();
+        longChance();
         tried();
         undo();
         images();
         count();
+        toldAnew();
         Check.end("PromisesTest");
     }
 
@@ -153,15 +155,15 @@ public final class PromisesTest {
     }
 
     private static void at() {
-        SleepPost post = Check.of("house a;house b;lamp a 2 4;lamp a 6 6;lamp b 0 11;bell a 5;corner a 4;cat a;cat b;");
+        SleepPost post = Check.of("house a;house b;lamp a 2 4;lamp a 6 6;lamp b 0 11;lamp a 11 11;bell a 5;corner a 4;cat a;cat b;");
         for (int hour = 0; hour < 12; hour++) {
-            Check.same("light " + hour, post.at(0, hour, 0), hour >= 2 && hour <= 4 || hour == 6 ? 1 : 0);
+            Check.same("light " + hour, post.at(0, hour, 0), hour >= 2 && hour <= 4 || hour == 6 || hour == 11 ? 1 : 0);
             Check.same("light of b " + hour, post.at(1, hour, 0), 1);
             Check.same("noise " + hour, post.at(0, hour, 1), 12);
         }
         Check.same("noise of a cat", post.at(1, 0, 1), 3);
         post.lit(0, true);
-        Check.same("lit by call", post.at(0, 11, 0), 1);
+        Check.same("lit by call", post.at(0, 10, 0), 1);
         post.bell(0, 0);
         Check.same("bell off", post.at(0, 0, 1), 7);
         Check.same("hour 12", post.at(0, 12, 0), -1);
@@ -206,6 +208,7 @@ public final class PromisesTest {
         Check.same("not binds more than and", value("not 0 and 0"), 0);
         Check.same("and ahead of or", value("1 or 1 and 0"), 1);
         Check.same("not is 1 or 0", value("not not 5"), 1);
+        Check.same("not of what isn't 0", value("not 5"), 0);
         Check.same("and is 1 or 0", value("5 and 3"), 1);
         Check.same("or is 1 or 0", value("0 or 3"), 1);
         Check.same("or of none", value("0 or 0"), 0);
@@ -229,6 +232,7 @@ public final class PromisesTest {
         Check.same("0 times an error", value("0*(1/0)"), error);
         String million = "1000*1000";
         Check.same("10 to the 12", value(million + "*" + million), 1000000000000L);
+        Check.same("10 to the 12 by +", value("(" + million + "*" + million + "-1)+1"), 1000000000000L);
         Check.same("above", value(million + "*" + million + "+1"), error);
         Check.same("below 0", value("0-" + million + "*" + million), -1000000000000L);
         Check.same("below that", value("0-" + million + "*" + million + "-1"), error);
@@ -448,6 +452,13 @@ public final class PromisesTest {
         Check.same("x and z", post.match(0), 0);
         Check.same("x and z", post.match(1), 2);
         Check.same("no sleepers", Check.of("house a;").match(0), -1);
+        // x and y walk to b; z would walk to c, but not with two in hand.
+        post = Check.of(ROW + "sleeper x a 9 b;sleeper y a 9 b;sleeper z d 9 c;letter x c;letter x c;law pull 100-far-(mail=2)*(far=0)*9;");
+        Check.same("by none", post.match(0), -2);
+        post = Check.of(ROW + "sleeper x a 9 b;sleeper z d 9 c;letter x c;");
+        Check.same("by z", post.match(0), 1);
+        Check.same("laid by y it is not by x", Check.of(ROW + "sleeper y a 9 a;sleeper x b 9 c;letter x c;").match(0), 1);
+        Check.same("a lone sleeper", Check.of(ROW + "sleeper x a 9 b;letter x b;").match(0), 0);
         // From now: all have left their beds and will not be back; z, who stays, is no help.
         post = Check.of(ROW + "sleeper x a 9 b;sleeper y c 9 b;sleeper z d 9 d;letter z b;law pull 100-far-(deep<9);law drop hour=0;");
         post.hours(1);
@@ -489,6 +500,13 @@ public final class PromisesTest {
         SleepPost tie = Check.of("house a;house b;house c;house d;street a b 1;street a c 1;street b d 1;street c d 1;"
             + "sleeper x a 0 a;law pull light*3+far*(hour>0)*(hour<2);");
         Check.same("b and d rather than c and d", tie.lead(0, 3, 1), 10);
+        // a, b and d would do as well, and are less as bits; but two are fewer.
+        SleepPost few = Check.of("house a;house b;house c;house d;house e;street b a 2;street c e 3;street e d 2;street d b 3;street c a 1;"
+            + "sleeper x c 0 c;law pull light*(1+far)*5-way;");
+        Check.same("d and e", few.lead(0, 3, 2), 24);
+        few.lit(0, true);
+        few.lit(1, true);
+        Check.same("d alone, as a and b are lit", few.lead(0, 3, 2), 8);
     }
 
     private static void chain() {
@@ -627,6 +645,8 @@ public final class PromisesTest {
         Check.same("no houses", new SleepPost().rests(1, 1), -1);
         Check.same("no houses", new SleepPost().rest(1, 1, 0), -1);
         Check.same("nobody", Check.of("house a;house b;").rests(9, 9), 4);
+        Check.same("one house", Check.of("house a;sleeper x a 0 a;").rests(9, 9), 1);
+        Check.same("one house", Check.of("house a;sleeper x a 0 a;").rest(9, 9, 0), 0);
         // A loud singer on the way wakes x in b, so there x stays; a soft one doesn't.
         String way = "house a;house b;house c;street a b 1;street b c 1;sleeper x a 5 c;";
         post = Check.of(way);
@@ -703,20 +723,52 @@ public final class PromisesTest {
         Check.same("seed -1", post.chance(-1, 0, 1), -1);
         Check.same("letter 1", post.chance(1, 1, 1), -1);
         Check.same("letter -1", post.chance(1, -1, 1), -1);
+        Check.same("seed 0", post.chance(0, 0, 1) >= 0, true);
         Check.same("the greatest seed", post.chance(MAX, 0, 9) >= 0, true);
         post.hours(5);
         Check.same("it did", post.chance(1, 0, 1), 10);
     }
 
+    /** With numbers of WAKE, over more NIGHTS than one, to the last HOUR of each. */
+    private static void longChance() {
+        // x waits in a to hour 11 and walks to b then; in each hour a number modulo 100 below 7 wakes.
+        SleepPost post = Check.of("house a;house b;street a b 1;sleeper x a 9 b;letter x b;law pull (hour=11)*(9-far)+(hour<11)*far;law wake 7;");
+        for (int nights = 1; nights <= 9; nights++) {
+            int due = 0;
+            long[] state = {12345};
+            for (int time = 0; time < 10; time++) {
+                boolean arrived = false;
+                for (int night = 0; night < nights; night++) {
+                    if (number(state) % 3 == 1) {
+                        number(state);
+                    }
+                    int hour = 0;
+                    while (hour < 11 && number(state) % 100 >= 7) {
+                        hour++;
+                    }
+                    if (hour == 11) {
+                        arrived = true;
+                        number(state);
+                    }
+                }
+                due += arrived ? 1 : 0;
+            }
+            Check.same("chance of " + nights, post.chance(12345, 0, nights), due);
+        }
+    }
+
+    private static long number(long[] state) {
+        state[0] = (state[0] * 1103515245L + 12345) % 2147483648L;
+        return state[0] / 65536;
+    }
+
     /** In how many of ten NIGHTS a cat comes to a house, if nothing else takes numbers. */
     private static int catsAt(long seed, int house, int houses) {
-        long state = seed;
+        long[] state = {seed};
         int cats = 0;
         for (int i = 0; i < 10; i++) {
-            state = (state * 1103515245L + 12345) % 2147483648L;
-            if (state / 65536 % 3 == 1) {
-                state = (state * 1103515245L + 12345) % 2147483648L;
-                cats += state / 65536 % houses == house ? 1 : 0;
+            if (number(state) % 3 == 1) {
+                cats += number(state) % houses == house ? 1 : 0;
             }
         }
         return cats;
@@ -748,10 +800,22 @@ public final class PromisesTest {
         SleepPost dark = Check.of("house a;house b;street a b 1;sleeper x a 0 a;letter x b;law pull light*5-far;lamp b 3 3;");
         Check.same("a lamp", dark.tried(0, 0), 1);
         Check.same("dark", dark.tried(4, 0), 0);
+        Check.same("dark is 0", Check.of("house a;house b;street a b 1;sleeper x a 0 a;letter x b;law pull far*(1-light);lamp b 0 11;").tried(4, 0), 1);
         Check.same("all lit: x stays", dark.tried(5, 0), 0);
         dark.lit(1, true);
         Check.same("dark though lit by call", dark.tried(4, 0), 0);
         Check.same("all lit", Check.of("house a;house b;street a b 1;sleeper x a 0 a;letter x b;law pull light*far;").tried(5, 0), 1);
+        SleepPost late = Check.of("house a;house b;street a b 1;sleeper x a 9 b;letter x b;law pull (hour=11)*(9-far)+(hour<11)*far;");
+        Check.same("in the last hour", late.tried(0, 0), 1);
+        Check.same("in the last hour", late.cost(1), 1);
+        Check.same("in the last hour", late.need(), 1);
+        Check.same("in the last hour", late.match(0), 0);
+        Check.same("in the last hour", late.chain(0), 1);
+        Check.same("in the last hour", late.chance(1, 0, 1), 10);
+        Check.same("in the last hour", late.brought(1), 1);
+        late.sight(11, 0, 1);
+        Check.same("in the last hour", late.dreamt(0), 2);
+        Check.same("in the last hour", late.lead(0, 1, 11), 0);
         post = Check.of(row);
         post.hours(24);
         Check.same("those that did count", post.tried(7, 0), 2);
@@ -797,6 +861,19 @@ public final class PromisesTest {
         }
         Check.same("the first two stay", post.at(3, 0, 1), 2);
         Check.same("nothing", post.undo(), -1);
+        post = Check.of(ROW + "sleeper x a 5 d;sleeper y d 5 d;sleeper z b 5 d;letter x b;letter x b;bell a 2;");
+        String[] before = new String[45];
+        for (int i = 0; i < before.length; i++) {
+            before[i] = state(post);
+            boolean done = i % 3 == 0 ? post.lay(i % 2, i / 3 % 3) || post.lay(i % 2, (i / 3 + 1) % 3)
+                : i % 3 == 1 ? post.lit(i % 4, (post.count(11) >> i % 4 & 1) == 0) : post.bell(i % 4, (i * 7 + 3) % 10) || post.bell(i % 4, 8);
+            Check.same("change " + i, done, true);
+        }
+        for (int i = before.length - 1; i >= before.length - 20; i--) {
+            post.undo();
+            Check.same("as ahead of change " + i, state(post).equals(before[i]), true);
+        }
+        Check.same("no more", post.undo(), -1);
     }
 
     private static void images() {
@@ -853,5 +930,42 @@ public final class PromisesTest {
         }
         Check.same("count(15)", post.count(15), -1);
         Check.same("count(-1)", post.count(-1), -1);
+    }
+
+    /** Nothing of a TEXT ahead is left when another one is told. */
+    private static void toldAnew() {
+        String full = "house a;house b;house c;street a b 5;street b c 9;sleeper x b 1 c;sleeper y a 2 b;letter x a;letter y c;lamp a 0 11;"
+            + "bell a 9;cat a;corner a 9;seed 7;law pull light*noise*mail*hour*way;law wake deep*far;law drop 1;";
+        String[] others = {
+            "", "house a;", "house a;house b;sleeper x a 5 b;letter x b;law pull 100-far*way;",
+            "house a;house b;street a b 1;sleeper x a 5 b;letter x b;law wake hour*9;law pull deep-far;", "house b;house a;street a b 3;seed 3;sleeper x a 0 b;letter x b;letter x a;law wake 30;"
+        };
+        for (String other : others) {
+            SleepPost fresh = Check.of(other);
+            SleepPost used = Check.of(full);
+            used.hours(5);
+            used.bell(1, 3);
+            used.lit(2, true);
+            used.tried(7, 0);
+            used.hours(17);
+            Check.tell(used, other);
+            for (int round = 0; round < 3; round++) {
+                Check.same("as a new object's: " + other, all(used).equals(all(fresh)), true);
+                used.hours(7);
+                fresh.hours(7);
+            }
+        }
+    }
+
+    private static String all(SleepPost post) {
+        StringBuilder all = new StringBuilder(state(post));
+        for (int what = 0; what < 15; what++) all.append(post.count(what)).append(' ');
+        for (int h = 0; h < 4; h++) {
+            for (int hour = 0; hour < 12; hour++) all.append(post.at(h, hour, 0)).append(post.where(0, hour)).append(' ');
+            for (int other = 0; other < 4; other++) all.append(post.far(h, other)).append(' ');
+            for (int what = 0; what < 3; what++) all.append(post.law(what, 0, h)).append(' ');
+            all.append(post.brought(h)).append(post.match(h)).append(post.chain(h)).append(post.lead(0, h, 11)).append(' ');
+        }
+        return all.append(post.need()).append(' ').append(post.rests(3, 4)).append(' ').append(post.chance(5, 0, 3)).toString();
     }
 }
