@@ -26,6 +26,7 @@ public final class PromisesTest {
         match();
         lead();
         chain();
+        longChain();
         meet();
         sights();
         dreamt();
@@ -527,6 +528,32 @@ public final class PromisesTest {
         // Two sleepers hand a letter to and fro; that it is still on its way in the 40th night is never.
         post = Check.of("house a;house b;house c;street a b 1;sleeper x a 9 b;sleeper y b 9 a;letter x c;");
         Check.same("to and fro", post.chain(0), -2);
+    }
+
+    /** A text, found by trying many, in which a letter arrives in just the 40th night. */
+    private static void longChain() {
+        String text = "house a;house b;house c;house d;house e;house f;house g;street d e 7;street c b 8;street b e 6;street d g 3;street d c 9;street a b 7;street a d 2;street c e 2;street e f 3;street a c 9;sleeper p a 0 d;sleeper q b 4 a;sleeper r c 7 b;sleeper s d 4 d;sleeper t e 0 g;"
+            + "letter s f;letter r f;letter s g;letter q b;letter p b;letter s g;letter t g;letter s g;"
+            + "law pull (hour=0)*((deep*22+mail*4+way*11+way*mail*35+deep*way*25)-(deep*22+mail*4+way*11+way*mail*35+deep*way*25)/43*43)-(hour>0)*way;";
+        SleepPost post = Check.of(text);
+        for (int nights = 40; nights >= 0; nights--) {
+            Check.same("chain of 40", post.chain(0), nights);
+            post.hours(12);
+        }
+        // A night more: bells wake all in the first hour, and then all letters are laid where they were at first.
+        post = Check.of(text);
+        int[] home = new int[8];
+        for (int l = 0; l < 8; l++) {
+            home[l] = post.letter(l, 1);
+            post.lay(l, 0);
+        }
+        for (int h = 0; h < 7; h++) post.bell(h, 9);
+        post.hours(1);
+        for (int h = 0; h < 7; h++) post.bell(h, 0);
+        for (int l = 0; l < 8; l++) post.lay(l, home[l]);
+        Check.same("chain of 41", post.chain(0), -2);
+        post.hours(11);
+        Check.same("chain of 40", post.chain(0), 40);
     }
 
     private static void meet() {
