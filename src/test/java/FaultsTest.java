@@ -13,188 +13,169 @@ public final class FaultsTest {
         Check.end("FaultsTest");
     }
 
-    private static void fault(String text, int fault, int place) {
-        SleepPost post = new SleepPost();
-        Check.same("text of " + text, Check.tell(post, text), -1);
-        Check.same("fault(0) of " + text, post.fault(0), fault);
-        Check.same("fault(1) of " + text, post.fault(1), place);
-    }
-
-    /** The FAULT stands where the text has a '!', which is taken out. */
-    private static void faultAtMark(String text, int fault) {
-        fault(text.replace("!", ""), fault, text.indexOf('!'));
-    }
-
-    private static void fine(String text, int lines) {
-        SleepPost post = new SleepPost();
-        Check.same("text of " + text, Check.tell(post, text), lines);
-        Check.same("fault(0) of " + text, post.fault(0), 0);
-        Check.same("fault(1) of " + text, post.fault(1), -1);
-    }
-
     private static String times(String part, int n) {
         return part.repeat(n);
     }
 
     private static void misplaced() {
-        fine("", 0);
-        fine(" \n ", 0);
-        fine("house\na ;\n", 1);
-        fine("house a;sleeper a a 0 a;letter a a;", 3);
-        fine("seed 00000000000000000000007;", 1);
-        fine("house abcdef;", 1);
-        faultAtMark("house !abcdefg;", 1);
-        faultAtMark("house !sleeper;", 1);
-        faultAtMark("house !way;", 1);
-        faultAtMark("house !1;", 1);
-        faultAtMark("house !A;", 1);
-        faultAtMark("house a!B;", 1);
-        faultAtMark("house a!1;", 1);
-        faultAtMark("!a;", 1);
-        faultAtMark("!;", 1);
-        faultAtMark("house a;!;", 1);
-        faultAtMark("!housea;", 1);
-        faultAtMark("!pull 1;", 1);
-        faultAtMark("house!\t a;", 1);
-        faultAtMark("house a!", 1);
-        faultAtMark("house a  !", 1);
-        faultAtMark("house!", 1);
-        faultAtMark("house a !b;", 1);
-        faultAtMark("house a;cat a !1;", 1);
-        faultAtMark("house a;bell a !a;", 1);
-        faultAtMark("house a;bell a!;", 1);
-        faultAtMark(AB + "street a !1;", 1);
-        faultAtMark(AB + "street a b !b;", 1);
-        faultAtMark(AB + "sleeper x a !b 1;", 1);
-        faultAtMark("law !house 1;", 1);
-        faultAtMark("law !1;", 1);
-        faultAtMark("law pull!;", 1);
-        faultAtMark("seed !x;", 1);
-        fault("house " + (char) 200 + ";", 1, 6);
-        fault("house a" + (char) 0, 1, 7);
-        fault("house a" + (char) 13 + ";", 1, 7);
+        Check.fine("", 0);
+        Check.fine(" \n ", 0);
+        Check.fine("house\na ;\n", 1);
+        Check.fine("house a;sleeper a a 0 a;letter a a;", 3);
+        Check.fine("seed 00000000000000000000007;", 1);
+        Check.fine("house abcdef;", 1);
+        Check.faultAtMark("house !abcdefg;", 1);
+        Check.faultAtMark("house !sleeper;", 1);
+        Check.faultAtMark("house !way;", 1);
+        Check.faultAtMark("house !1;", 1);
+        Check.faultAtMark("house !A;", 1);
+        Check.faultAtMark("house a!B;", 1);
+        Check.faultAtMark("house a!1;", 1);
+        Check.faultAtMark("!a;", 1);
+        Check.faultAtMark("!;", 1);
+        Check.faultAtMark("house a;!;", 1);
+        Check.faultAtMark("!housea;", 1);
+        Check.faultAtMark("!pull 1;", 1);
+        Check.faultAtMark("house!\t a;", 1);
+        Check.faultAtMark("house a!", 1);
+        Check.faultAtMark("house a  !", 1);
+        Check.faultAtMark("house!", 1);
+        Check.faultAtMark("house a !b;", 1);
+        Check.faultAtMark("house a;cat a !1;", 1);
+        Check.faultAtMark("house a;bell a !a;", 1);
+        Check.faultAtMark("house a;bell a!;", 1);
+        Check.faultAtMark(AB + "street a !1;", 1);
+        Check.faultAtMark(AB + "street a b !b;", 1);
+        Check.faultAtMark(AB + "sleeper x a !b 1;", 1);
+        Check.faultAtMark("law !house 1;", 1);
+        Check.faultAtMark("law !1;", 1);
+        Check.faultAtMark("law pull!;", 1);
+        Check.faultAtMark("seed !x;", 1);
+        Check.fault("house " + (char) 200 + ";", 1, 6);
+        Check.fault("house a" + (char) 0, 1, 7);
+        Check.fault("house a" + (char) 13 + ";", 1, 7);
     }
 
     private static void tooMuch() {
         String eight = "house a;house b;house c;house d;house e;house f;house g;house h;";
-        fine(eight, 8);
-        faultAtMark(eight + " !house i;", 2);
-        faultAtMark(eight + "!house 5;", 2);
+        Check.fine(eight, 8);
+        Check.faultAtMark(eight + " !house i;", 2);
+        Check.faultAtMark(eight + "!house 5;", 2);
         String twelve = eight + "street a b 1;street a c 1;street a d 1;street a e 1;street a f 1;street a g 1;street a h 1;"
             + "street b c 1;street b d 1;street b e 1;street b f 1;street b g 1;";
-        fine(twelve, 20);
-        faultAtMark(twelve + "!street b h 1;", 2);
+        Check.fine(twelve, 20);
+        Check.faultAtMark(twelve + "!street b h 1;", 2);
         String five = "house a;sleeper x a 0 a;sleeper y a 9 a;sleeper z a 0 a;sleeper v a 0 a;sleeper w a 0 a;";
-        fine(five, 6);
-        faultAtMark(five + "!sleeper u a 0 a;", 2);
+        Check.fine(five, 6);
+        Check.faultAtMark(five + "!sleeper u a 0 a;", 2);
         String letters = "house a;sleeper x a 0 a;" + times("letter x a;", 8);
-        fine(letters, 10);
-        faultAtMark(letters + "!letter x a;", 2);
+        Check.fine(letters, 10);
+        Check.faultAtMark(letters + "!letter x a;", 2);
         String lamps = "house a;" + times("lamp a 0 11;", 6);
-        fine(lamps, 7);
-        faultAtMark(lamps + "!lamp a 0 0;", 2);
-        fine(AB + "street a b 9;", 3);
-        faultAtMark(AB + "street a b !10;", 2);
-        faultAtMark(AB + "street a b !0;", 2);
-        faultAtMark(AB + "street a b !4294967297;", 2);
-        faultAtMark(AB + "street a b !18446744073709551617;", 2);
-        faultAtMark("house a;sleeper x a !10 a;", 2);
-        faultAtMark("house a;lamp a !12 11;", 2);
-        faultAtMark("house a;lamp a 0 !12;", 2);
-        faultAtMark("house a;lamp a 3 !2;", 2);
-        fine("house a;lamp a 3 3;lamp a 3 3;", 3);
-        fine("house a;bell a 9;corner a 1;cat a;", 4);
-        faultAtMark("house a;bell a !0;", 2);
-        faultAtMark("house a;bell a !10;", 2);
-        faultAtMark("house a;corner a !0;", 2);
-        faultAtMark("house a;corner a !10;", 2);
-        fine("seed 99999;", 1);
-        faultAtMark("seed !100000;", 2);
-        fine("law pull 9999;", 1);
-        faultAtMark("law pull !10000;", 2);
-        fine("law pull " + times("(", 8) + "1" + times(")", 8) + "+" + times("(", 8) + "1" + times(")", 8) + ";", 1);
-        faultAtMark("law pull " + times("(", 8) + "!(1" + times(")", 9) + ";", 2);
-        fine("law pull 1" + times("+1", 31) + ";", 1);
-        fine("law pull not 1" + times("+1", 31) + ";", 1);
-        faultAtMark("law pull not 1" + times("+1", 31) + "!+1;", 2);
-        faultAtMark("law pull 1" + times("+1", 31) + "+!1;", 2);
-        faultAtMark("law pull 1" + times("+1", 31) + " or !deep;", 2);
-        faultAtMark("law pull 1" + times("+1", 31) + " or !not 1;", 2);
-        fine("law pull " + times("not ", 63) + "1;", 1);
-        faultAtMark("law pull " + times("not ", 64) + "!1;", 2);
-        faultAtMark("law pull " + times("not ", 64) + "!not 1;", 2);
-        faultAtMark("law pull 1" + times("+1", 15) + ";law wake 1" + times("-1", 15) + ";law drop 1+!1;", 2);
-        fine("law pull 1" + times("+1", 15) + ";law wake 1" + times("-1", 15) + ";law drop (1);", 3);
+        Check.fine(lamps, 7);
+        Check.faultAtMark(lamps + "!lamp a 0 0;", 2);
+        Check.fine(AB + "street a b 9;", 3);
+        Check.faultAtMark(AB + "street a b !10;", 2);
+        Check.faultAtMark(AB + "street a b !0;", 2);
+        Check.faultAtMark(AB + "street a b !4294967297;", 2);
+        Check.faultAtMark(AB + "street a b !18446744073709551617;", 2);
+        Check.faultAtMark("house a;sleeper x a !10 a;", 2);
+        Check.faultAtMark("house a;lamp a !12 11;", 2);
+        Check.faultAtMark("house a;lamp a 0 !12;", 2);
+        Check.faultAtMark("house a;lamp a 3 !2;", 2);
+        Check.fine("house a;lamp a 3 3;lamp a 3 3;", 3);
+        Check.fine("house a;bell a 9;corner a 1;cat a;", 4);
+        Check.faultAtMark("house a;bell a !0;", 2);
+        Check.faultAtMark("house a;bell a !10;", 2);
+        Check.faultAtMark("house a;corner a !0;", 2);
+        Check.faultAtMark("house a;corner a !10;", 2);
+        Check.fine("seed 99999;", 1);
+        Check.faultAtMark("seed !100000;", 2);
+        Check.fine("law pull 9999;", 1);
+        Check.faultAtMark("law pull !10000;", 2);
+        Check.fine("law pull " + times("(", 8) + "1" + times(")", 8) + "+" + times("(", 8) + "1" + times(")", 8) + ";", 1);
+        Check.faultAtMark("law pull " + times("(", 8) + "!(1" + times(")", 9) + ";", 2);
+        Check.fine("law pull 1" + times("+1", 31) + ";", 1);
+        Check.fine("law pull not 1" + times("+1", 31) + ";", 1);
+        Check.faultAtMark("law pull not 1" + times("+1", 31) + "!+1;", 2);
+        Check.faultAtMark("law pull 1" + times("+1", 31) + "+!1;", 2);
+        Check.faultAtMark("law pull 1" + times("+1", 31) + " or !deep;", 2);
+        Check.faultAtMark("law pull 1" + times("+1", 31) + " or !not 1;", 2);
+        Check.fine("law pull " + times("not ", 63) + "1;", 1);
+        Check.faultAtMark("law pull " + times("not ", 64) + "!1;", 2);
+        Check.faultAtMark("law pull " + times("not ", 64) + "!not 1;", 2);
+        Check.faultAtMark("law pull 1" + times("+1", 15) + ";law wake 1" + times("-1", 15) + ";law drop 1+!1;", 2);
+        Check.fine("law pull 1" + times("+1", 15) + ";law wake 1" + times("-1", 15) + ";law drop (1);", 3);
     }
 
     private static void toldAlready() {
-        faultAtMark("house a;house !a;", 3);
-        faultAtMark("house a;sleeper x a 0 a;sleeper !x a 0 a;", 3);
-        fine("house x;sleeper x x 0 x;", 2);
-        faultAtMark(AB + "street a b 1;street a !b 1;", 3);
-        faultAtMark(AB + "street a b 1;street b !a 2;", 3);
-        faultAtMark("house a;bell a 1;bell !a 2;", 3);
-        faultAtMark("house a;corner a 1;corner !a 2;", 3);
-        faultAtMark("house a;cat a;cat !a;", 3);
-        fine(AB + "bell a 1;bell b 1;corner a 1;corner b 1;cat a;cat b;", 8);
-        faultAtMark("seed 0;!seed 0;", 3);
-        faultAtMark("law wake 1;law !wake 1;", 3);
-        fine("law wake 1;law pull 1;law drop 1;", 3);
+        Check.faultAtMark("house a;house !a;", 3);
+        Check.faultAtMark("house a;sleeper x a 0 a;sleeper !x a 0 a;", 3);
+        Check.fine("house x;sleeper x x 0 x;", 2);
+        Check.faultAtMark(AB + "street a b 1;street a !b 1;", 3);
+        Check.faultAtMark(AB + "street a b 1;street b !a 2;", 3);
+        Check.faultAtMark("house a;bell a 1;bell !a 2;", 3);
+        Check.faultAtMark("house a;corner a 1;corner !a 2;", 3);
+        Check.faultAtMark("house a;cat a;cat !a;", 3);
+        Check.fine(AB + "bell a 1;bell b 1;corner a 1;corner b 1;cat a;cat b;", 8);
+        Check.faultAtMark("seed 0;!seed 0;", 3);
+        Check.faultAtMark("law wake 1;law !wake 1;", 3);
+        Check.fine("law wake 1;law pull 1;law drop 1;", 3);
     }
 
     private static void untold() {
-        faultAtMark("street !a b 1;", 4);
-        faultAtMark("house a;street a !b 1;house b;", 4);
-        faultAtMark("house a;sleeper x !x 0 a;", 4);
-        faultAtMark("house a;sleeper x a 0 !x;", 4);
-        faultAtMark("house a;letter !a a;", 4);
-        faultAtMark("house a;sleeper x a 0 a;letter x !x;", 4);
-        faultAtMark("lamp !a 0 1;", 4);
-        faultAtMark("bell !a 1;", 4);
-        faultAtMark("cat !a;", 4);
-        faultAtMark("corner !a 1;", 4);
-        faultAtMark("house a;street a !a 1;", 5);
+        Check.faultAtMark("street !a b 1;", 4);
+        Check.faultAtMark("house a;street a !b 1;house b;", 4);
+        Check.faultAtMark("house a;sleeper x !x 0 a;", 4);
+        Check.faultAtMark("house a;sleeper x a 0 !x;", 4);
+        Check.faultAtMark("house a;letter !a a;", 4);
+        Check.faultAtMark("house a;sleeper x a 0 a;letter x !x;", 4);
+        Check.faultAtMark("lamp !a 0 1;", 4);
+        Check.faultAtMark("bell !a 1;", 4);
+        Check.faultAtMark("cat !a;", 4);
+        Check.faultAtMark("corner !a 1;", 4);
+        Check.faultAtMark("house a;street a !a 1;", 5);
     }
 
     private static void firstAlongTheText() {
-        faultAtMark("house a;street a !a 0;", 5);
-        faultAtMark("street !a a 10;", 4);
-        faultAtMark("house a;bell !b 10;_", 4);
-        faultAtMark("house a;house !a", 3);
-        faultAtMark("law pull 1" + times("+1", 31) + " + !+;", 1);
-        faultAtMark("law pull " + times("(", 8) + "1!(;", 1);
-        faultAtMark("law pull " + times("not ", 64) + "!house;", 1);
-        faultAtMark("house !10;", 1);
+        Check.faultAtMark("house a;street a !a 0;", 5);
+        Check.faultAtMark("street !a a 10;", 4);
+        Check.faultAtMark("house a;bell !b 10;_", 4);
+        Check.faultAtMark("house a;house !a", 3);
+        Check.faultAtMark("law pull 1" + times("+1", 31) + " + !+;", 1);
+        Check.faultAtMark("law pull " + times("(", 8) + "1!(;", 1);
+        Check.faultAtMark("law pull " + times("not ", 64) + "!house;", 1);
+        Check.faultAtMark("house !10;", 1);
     }
 
     private static void expressions() {
-        fine("law pull not not 1<2 and not (3=3) or 4;", 1);
-        fine("law pull (1<2)<3;", 1);
-        fine("law pull 1<2 and 2<3 or 3<(4<5);", 1);
-        faultAtMark("law pull 1<2!<3;", 1);
-        faultAtMark("law pull 1<2+3!=3;", 1);
-        faultAtMark("law pull not 1<2!>3;", 1);
-        faultAtMark("law pull 1< !=3;", 1);
-        faultAtMark("law pull 1=!<3;", 1);
-        faultAtMark("law pull 1<=!>3;", 1);
-        fine("law pull 1<>3;", 1);
-        fine("law pull 1>=3;", 1);
-        faultAtMark("law pull 1>!>3;", 1);
-        faultAtMark("law pull 1+!not 2;", 1);
-        faultAtMark("law pull 1<!not 2;", 1);
-        faultAtMark("law pull 1 !not 2;", 1);
-        faultAtMark("law pull !-1;", 1);
-        faultAtMark("law pull 1+!;", 1);
-        faultAtMark("law pull (1!;", 1);
-        faultAtMark("law pull (1!", 1);
-        faultAtMark("law pull 1!);", 1);
-        faultAtMark("law pull (!);", 1);
-        faultAtMark("law pull 1 !2;", 1);
-        faultAtMark("law pull 1 !way;", 1);
-        faultAtMark("law pull 1!(2);", 1);
-        faultAtMark("law pull !x;", 1);
-        faultAtMark("law pull !pull;", 1);
-        fine("law pull 1and2;", 1);
+        Check.fine("law pull not not 1<2 and not (3=3) or 4;", 1);
+        Check.fine("law pull (1<2)<3;", 1);
+        Check.fine("law pull 1<2 and 2<3 or 3<(4<5);", 1);
+        Check.faultAtMark("law pull 1<2!<3;", 1);
+        Check.faultAtMark("law pull 1<2+3!=3;", 1);
+        Check.faultAtMark("law pull not 1<2!>3;", 1);
+        Check.faultAtMark("law pull 1< !=3;", 1);
+        Check.faultAtMark("law pull 1=!<3;", 1);
+        Check.faultAtMark("law pull 1<=!>3;", 1);
+        Check.fine("law pull 1<>3;", 1);
+        Check.fine("law pull 1>=3;", 1);
+        Check.faultAtMark("law pull 1>!>3;", 1);
+        Check.faultAtMark("law pull 1+!not 2;", 1);
+        Check.faultAtMark("law pull 1<!not 2;", 1);
+        Check.faultAtMark("law pull 1 !not 2;", 1);
+        Check.faultAtMark("law pull !-1;", 1);
+        Check.faultAtMark("law pull 1+!;", 1);
+        Check.faultAtMark("law pull (1!;", 1);
+        Check.faultAtMark("law pull (1!", 1);
+        Check.faultAtMark("law pull 1!);", 1);
+        Check.faultAtMark("law pull (!);", 1);
+        Check.faultAtMark("law pull 1 !2;", 1);
+        Check.faultAtMark("law pull 1 !way;", 1);
+        Check.faultAtMark("law pull 1!(2);", 1);
+        Check.faultAtMark("law pull !x;", 1);
+        Check.faultAtMark("law pull !pull;", 1);
+        Check.fine("law pull 1and2;", 1);
     }
 
     private static void afterAFault() {
