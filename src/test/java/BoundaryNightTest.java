@@ -291,6 +291,27 @@ public final class BoundaryNightTest {
         Check.same("the first number", post.look(0, 4), 1);
     }
 
+    static void asItGoesIsWithoutNumbersBehindHoursAndChanceToo() {
+        // The numbers of seed 1 are 38, 58, 13, 15 .. modulo 100: by them WAKE 49 wakes at once, and 50 does not in hour 1.
+        SleepPost post = Check.of("house a;house b;house c;house d;street a b 1;street b c 1;street c d 1;sleeper x a 0 d;letter x d;seed 1;law wake (hour>0)*49;");
+        post.hours(1);
+        Check.same("49 never wakes", post.where(0, 11), 3);
+        post.chance(1, 0, 1);
+        Check.same("49 never wakes", post.where(0, 11), 3);
+        Check.same("49 never wakes", post.tried(0, 0), 1);
+        Check.same("49 never wakes", post.chain(0), 1);
+        post = Check.of("house a;house b;house c;house d;street a b 1;street b c 1;street c d 1;sleeper x a 0 d;letter x d;seed 1;law wake (hour=1)*50+(hour=0)*1;");
+        post.hours(1);
+        Check.same("50 always wakes", post.where(0, 11), 2);
+        Check.same("50 always wakes", post.tried(0, 0), 0);
+    }
+
+    static void wayIs0ForWakeAndDropOnTheWay() {
+        SleepPost post = Check.of(ROW + "sleeper x a 9 d;letter x d;letter x b;law wake way*100;law drop way;");
+        Check.same("not woken", post.where(0, 2), 3);
+        Check.same("nothing is let go", post.tried(0, 0), 2);
+    }
+
     static void wokenAllInHandLiesThere() {
         SleepPost post = Check.of(ABC + "sleeper x a 0 c;letter x b;letter x c;cat b;");
         post.hours(1);
@@ -386,9 +407,7 @@ public final class BoundaryNightTest {
     static void hoursOfNoSuchNumber() {
         SleepPost post = Check.of(ROW + "sleeper x a 9 c;letter x d;");
         post.hours(1);
-        for (int n : new int[] {-1, 37, 38, MIN, MAX, MIN + 1, MAX - 1}) {
-            Check.refused("hours(" + n + ")", post, () -> post.hours(n), -1);
-        }
+        Check.refused("n", post, new int[] {-1, 37, 38, MIN, MAX, MIN + 1, MAX - 1}, n -> post.hours(n), -1);
     }
 
     static void hoursOf0() {
@@ -430,10 +449,9 @@ public final class BoundaryNightTest {
     static void nightIs999AtMost() {
         SleepPost post = lastNight();
         Check.same("NIGHT", post.count(7), 999);
-        Check.refused("12", post, () -> post.hours(12), -1);
-        Check.refused("36", post, () -> post.hours(36), -1);
+        Check.refused("hours", post, new int[] {12, 13, 36}, post::hours, -1);
         Check.same("11", post.hours(11), 11);
-        Check.refused("1", post, () -> post.hours(1), -1);
+        Check.refused("hours", post, new int[] {1, 36}, post::hours, -1);
         Check.same("0", post.hours(0), 11);
         Check.same("NIGHT", post.count(7), 999);
     }
@@ -561,6 +579,29 @@ public final class BoundaryNightTest {
         Check.same("x has it there already", post.match(0), 0);
     }
 
+    static void matchMayBeTheVeryLast() {
+        // Only the last one of five walks to b, at hour 0.
+        String text = ABC + "sleeper p c 9 c;sleeper q c 9 c;sleeper r c 9 c;sleeper s c 9 c;sleeper t a 9 b;";
+        SleepPost post = Check.of(text.replace("b 1;street b c 1", "b 1") + "letter p b;".repeat(4));
+        for (int letter = 0; letter < 4; letter++) {
+            Check.same("letter " + letter, post.match(letter), 4);
+        }
+    }
+
+    static void matchIsOfThoseThatLieAlone() {
+        // Letter 0 is in hand and never arrives; letter 1 lies and does.
+        SleepPost post = Check.of(ROW + "sleeper x a 9 b;sleeper y d 0 c;letter x d;letter y d;bell c 1;law drop 0;");
+        post.hours(1);
+        Check.same("in hand", post.match(0), -2);
+        Check.same("y is woken in c with letter 1", post.letter(1, 1), 2);
+        Check.same("none comes by", post.match(1), -2);
+        post = Check.of("house a;house b;house c;street a b 1;sleeper x a 9 a;sleeper y b 9 b;letter x c;letter y a;law drop hour=0 and noise>0;bell b 1;");
+        post.hours(1);
+        Check.same("in hand", post.letter(0, 2), 1);
+        Check.same("it lies", post.letter(1, 2), 0);
+        Check.same("by x, who stands in a", post.match(1), 0);
+    }
+
     static void matchLeavesAll() {
         SleepPost post = Check.of(ABC + "sleeper x a 9 b;sleeper y c 9 b;letter y b;letter y b;");
         String before = Check.state(post);
@@ -634,6 +675,21 @@ public final class BoundaryNightTest {
         String star = EIGHT + "street a b 1;street a c 1;street a d 1;street a e 1;street a f 1;street a g 1;street a h 1;";
         Check.same("all seven, to stay", Check.of(star + "sleeper x a 9 a;law pull (1-light)*way;").lead(0, 0, 0), 254);
         Check.same("six, to go to h", Check.of(star + "sleeper x a 9 a;law pull (1-light)*way;").lead(0, 7, 0), 126);
+    }
+
+    static void leadMayNeedAllHouses() {
+        // In hour 0 x stays in a and is woken there without light; in hour 1 light alone leads to b.
+        SleepPost post = Check.of(AB + "sleeper x a 9 b;law pull (hour>0)*light*(1+(far=0));law wake (1-light)*100;");
+        Check.same("a and b", post.lead(0, 1, 1), 3);
+        Check.same("none, to be woken in a", post.lead(0, 0, 1), 0);
+    }
+
+    static void leadByALawOfWakeOrDropAlone() {
+        SleepPost post = Check.of(ABC + "sleeper x a 9 c;law wake light*100;");
+        Check.same("to stay in b one must be woken there", post.lead(0, 1, 11), 2);
+        post = Check.of("house a;house b;house c;street a b 1;street b c 2;sleeper x a 9 b;letter x c;law pull (mail>0)*(9-far)+(mail=0)*far;law drop light;");
+        Check.same("with the letter x stays in b", post.lead(0, 1, 11), 0);
+        Check.same("without it x goes to c", post.lead(0, 2, 11), 2);
     }
 
     static void leadMayNeedTheLastHouse() {

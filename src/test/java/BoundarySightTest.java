@@ -15,26 +15,20 @@ public final class BoundarySightTest {
 
     static void sightAtNoSuchHour() {
         SleepPost post = Check.of(FULL);
-        for (int hour : new int[] {-1, 12, 13, MIN, MAX}) {
-            Check.refused("hour " + hour, post, () -> post.sight(hour, 0, 0), -1);
-        }
+        Check.refused("hour", post, new int[] {-1, 12, 13, MIN, MAX}, hour -> post.sight(hour, 0, 0), -1);
         Check.same("hour 0", post.sight(0, 0, 0), 0);
         Check.same("hour 11", post.sight(11, 0, 0), 1);
     }
 
     static void sightOfNoSuchSleeper() {
         SleepPost post = Check.of(FULL);
-        for (int sleeper : new int[] {-1, 5, MIN, MAX}) {
-            Check.refused("sleeper " + sleeper, post, () -> post.sight(0, sleeper, 0), -1);
-        }
+        Check.refused("sleeper", post, new int[] {-1, 5, MIN, MAX}, sleeper -> post.sight(0, sleeper, 0), -1);
         Check.same("the last", post.sight(0, 4, 0), 0);
     }
 
     static void sightInNoSuchHouse() {
         SleepPost post = Check.of(FULL);
-        for (int house : new int[] {-1, 8, MIN, MAX}) {
-            Check.refused("house " + house, post, () -> post.sight(0, 0, house), -1);
-        }
+        Check.refused("house", post, new int[] {-1, 8, MIN, MAX}, house -> post.sight(0, 0, house), -1);
         Check.same("the last", post.sight(0, 0, 7), 0);
     }
 
@@ -68,9 +62,7 @@ public final class BoundarySightTest {
         Check.refused("none is there", post, () -> post.strike(0), -1);
         post.sight(0, 0, 0);
         post.sight(1, 0, 0);
-        for (int sight : new int[] {-1, 2, 24, MIN, MAX}) {
-            Check.refused("strike(" + sight + ")", post, () -> post.strike(sight), -1);
-        }
+        Check.refused("sight", post, new int[] {-1, 2, 24, MIN, MAX}, sight -> post.strike(sight), -1);
         Check.same("the last one", post.strike(1), 2);
         Check.same("that strike", post.strike(2), 3);
     }
@@ -129,9 +121,7 @@ public final class BoundarySightTest {
         post.sight(0, 0, 0);
         post.sight(0, 0, 0);
         post.known(1);
-        for (int n : new int[] {-2, 3, 24, MIN, MAX}) {
-            Check.refused("known(" + n + ")", post, () -> post.known(n));
-        }
+        Check.refused("n", post, new int[] {-2, 3, 24, MIN, MAX}, n -> post.known(n) ? 1 : 0, 0);
         Check.same("by 1 as before", post.count(13), 1);
     }
 

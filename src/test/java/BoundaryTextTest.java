@@ -210,6 +210,33 @@ public final class BoundaryTextTest {
         Check.same("more must come", post.fault(1), 10);
     }
 
+    static void aSignIsCutAtN() {
+        SleepPost post = new SleepPost();
+        for (String sign : new String[] {"<=", "<>", ">="}) {
+            Check.feed(post, "law pull 1" + sign + "2;");
+            Check.same("cut behind its first part", post.text(11), -1);
+            Check.same("more must come", post.fault(0), 1);
+            Check.same("at the length", post.fault(1), 11);
+            Check.feed(post, " ".repeat(689) + "law pull 1" + sign.charAt(0));
+            Check.same("at the end of a full tape", post.text(700), -1);
+            Check.same("more must come", post.fault(1), 700);
+        }
+    }
+
+    static void tokensAtTheEndOfAFullTape() {
+        String[] ends = {"house a", "house abcdef", "hous", "sleeper", "slee", "a", "law pull deep", "law pull 12", "seed 99999", "law pull ("};
+        for (String end : ends) {
+            SleepPost post = new SleepPost();
+            Check.feed(post, " ".repeat(700 - end.length()) + end);
+            Check.same(end, post.text(700), -1);
+            Check.same("its fault", post.fault(0), 1);
+            Check.same("its place", post.fault(1), end.equals("hous") || end.equals("slee") || end.equals("a") ? 700 - end.length() : 700);
+        }
+        SleepPost post = new SleepPost();
+        Check.feed(post, " ".repeat(692) + "house a;");
+        Check.same("a line", post.text(700), 1);
+    }
+
     static void aTextWithAFaultEmptiesTheTape() {
         SleepPost post = new SleepPost();
         Check.feed(post, "house a;house a;house b;");
@@ -232,17 +259,71 @@ public final class BoundaryTextTest {
     }
 
     static void withAFaultTheNumbersStay() {
-        String text = "house a;sleeper x a 0 a;seed 77;law wake 50;";
+        String text = "house a;sleeper x a 0 a;seed 77;law wake 10;";
         SleepPost one = Check.of(text);
         SleepPost other = Check.of(text);
         one.hours(1);
         other.hours(1);
         Check.same("a fault", Check.tell(one, "seed 9;law wake ;"), -1);
-        for (int i = 0; i < 40; i++) {
-            Check.same("the same night " + i, Check.state(one).equals(Check.state(other)), true);
+        for (int i = 0; i < 100; i++) {
+            Check.same("the same night " + i, one.look(0, 4), other.look(0, 4));
             one.hours(1);
             other.hours(1);
         }
+    }
+
+    /** So many texts that each one is read where one ahead was, or one with a fault. */
+    static void nothingOfTextsAheadIsLeft() {
+        String full = EIGHT + "street a b 5;street b c 9;sleeper x b 1 c;sleeper y a 2 b;letter x a;letter y c;lamp a 0 11;bell a 9;cat a;corner a 9;seed 7;"
+            + "law pull light*noise*mail*hour*way;law wake deep<far;law drop 1";
+        String[] others = {"", "house a;", "house z;house y;street z y 1;sleeper x y 1 z;letter x z;", "house a;house b;street a b 2;sleeper x a 0 b;law wake 1;"};
+        for (String other : others) {
+            for (int kind = 0; kind < 4; kind++) {
+                SleepPost fresh = Check.of(other);
+                SleepPost used = new SleepPost();
+                Check.tell(used, kind % 2 == 0 ? full + ";" : full + "<(((1<(((1+;");
+                Check.tell(used, kind < 2 ? full + ";" : full + "<(((1<(((1+;");
+                Check.tell(used, other);
+                Check.same(kind + ": state of " + other, Check.state(used).equals(Check.state(fresh)), true);
+                Check.same("far", used.far(0, 1), fresh.far(0, 1));
+                Check.same("light", used.at(0, 0, 0), fresh.at(0, 0, 0));
+                Check.same("the full one again", Check.tell(used, full + ";"), 22);
+                Check.tell(used, other);
+                Check.tell(used, other);
+                for (int hour = 0; hour < 12; hour++) {
+                    Check.same("where", used.where(0, hour), fresh.where(0, hour));
+                }
+                for (int what = 0; what < 3; what++) {
+                    Check.same("law", used.law(what, 0, 0), fresh.law(what, 0, 0));
+                }
+                used.hours(12);
+                fresh.hours(12);
+                Check.same(kind + ": a night later", Check.state(used).equals(Check.state(fresh)), true);
+            }
+        }
+    }
+
+    /** A fault in an E leaves brackets open, signs waiting and a comparison behind; the next E knows nothing of it. */
+    static void nothingOfAnEWithAFaultIsLeft() {
+        SleepPost post = new SleepPost();
+        String[] faults = {"law pull ((((((((1;", "law pull 1<2<3;", "law pull not not 1+2*(3<(4 or not;", "law pull 1<2;law wake ;"};
+        for (String fault : faults) {
+            for (int i = 0; i < 2; i++) {
+                Check.same(fault, Check.tell(post, fault), -1);
+                Check.same("eight brackets", Check.tell(post, "law wake " + "(".repeat(8) + "1" + ")".repeat(8) + ";"), 1);
+                Check.same(fault, Check.tell(post, fault), -1);
+                Check.same("a value", Check.tell(post, "house a;sleeper x a 0 a;law pull 7-2*3;law wake 1<2;"), 4);
+                Check.same("pull", post.law(0, 0, 0), 1);
+                Check.same("wake", post.law(1, 0, 0), 1);
+                Check.same(fault, Check.tell(post, fault), -1);
+                Check.same("64 knots", Check.tell(post, "law drop not 1" + "+1".repeat(31) + ";"), 1);
+            }
+        }
+    }
+
+    static void eachLawStartsItsOwnE() {
+        fine("law pull 1<2;law wake 2<3;law drop 3<4;", 3);
+        fine("law pull (1<2)=(2<3);law wake not 1;law drop not 1;", 3);
     }
 
     static void aTextStartsAtHour0OfNight0() {
@@ -907,6 +988,34 @@ public final class BoundaryTextTest {
             mark("law pull 1" + sign + "!not 2;", 1);
         }
         mark("law pull 1 !not;", 1);
+    }
+
+    static void aRuleIsPullWakeOrDropAlone() {
+        for (String word : LANGUAGE.split(" ")) {
+            if (word.equals("pull") || word.equals("wake") || word.equals("drop")) {
+                fine("law " + word + " 1;", 1);
+            } else {
+                mark("law !" + word + " 1;", 1);
+            }
+        }
+        mark("law !x 1;", 1);
+        mark("law !1;", 1);
+        mark("law !;", 1);
+        mark("law!", 1);
+    }
+
+    static void onlyTenWordsStartALine() {
+        String lines = " house street sleeper letter lamp bell cat corner seed law ";
+        for (String word : LANGUAGE.split(" ")) {
+            mark(lines.contains(" " + word + " ") ? word + "!;" : "!" + word + ";", 1);
+        }
+    }
+
+    static void namesAndNumbersOfAnEAlone() {
+        String names = " deep far light noise mail hour way not ";
+        for (String word : LANGUAGE.split(" ")) {
+            mark(names.contains(" " + word + " ") ? "law pull 1+(" + word + "!" : "law pull 1+(!" + word, 1);
+        }
     }
 
     static void aSignRightBehindBelongsToIt() {

@@ -478,16 +478,12 @@ public final class BoundaryTownTest {
 
     static void layOfNoSuchLetter() {
         SleepPost post = Check.of(LAYING);
-        for (int letter : new int[] {-1, 3, 8, MIN, MAX}) {
-            Check.refused("lay(" + letter + ", 1)", post, () -> post.lay(letter, 1));
-        }
+        Check.refused("letter", post, new int[] {-1, 3, 8, MIN, MAX}, letter -> post.lay(letter, 1) ? 1 : 0, 0);
     }
 
     static void layByNoSuchSleeper() {
         SleepPost post = Check.of(LAYING);
-        for (int sleeper : new int[] {-1, 3, 5, MIN, MAX}) {
-            Check.refused("lay(0, " + sleeper + ")", post, () -> post.lay(0, sleeper));
-        }
+        Check.refused("sleeper", post, new int[] {-1, 3, 5, MIN, MAX}, sleeper -> post.lay(0, sleeper) ? 1 : 0, 0);
     }
 
     static void layWhereItLies() {
@@ -537,10 +533,8 @@ public final class BoundaryTownTest {
 
     static void litOfNoSuchHouse() {
         SleepPost post = Check.of(EIGHT);
-        for (int house : new int[] {-1, 8, 31, 32, MIN, MAX}) {
-            Check.refused("lit(" + house + ", true)", post, () -> post.lit(house, true));
-            Check.refused("lit(" + house + ", false)", post, () -> post.lit(house, false));
-        }
+        Check.refused("lit", post, new int[] {-1, 8, 31, 32, MIN, MAX}, house -> post.lit(house, true) ? 1 : 0, 0);
+        Check.refused("no more", post, new int[] {-1, 8, 31, 32, MIN, MAX}, house -> post.lit(house, false) ? 1 : 0, 0);
     }
 
     static void litIfItIsSo() {
@@ -576,16 +570,12 @@ public final class BoundaryTownTest {
 
     static void bellOfNoSuchHouse() {
         SleepPost post = Check.of(EIGHT);
-        for (int house : new int[] {-1, 8, MIN, MAX}) {
-            Check.refused("bell(" + house + ", 1)", post, () -> post.bell(house, 1));
-        }
+        Check.refused("house", post, new int[] {-1, 8, MIN, MAX}, house -> post.bell(house, 1) ? 1 : 0, 0);
     }
 
     static void bellOfNoSuchLoud() {
         SleepPost post = Check.of(EIGHT + "bell a 5;");
-        for (int loud : new int[] {-1, 10, MIN, MAX}) {
-            Check.refused("bell(0, " + loud + ")", post, () -> post.bell(0, loud));
-        }
+        Check.refused("loud", post, new int[] {-1, 10, MIN, MAX}, loud -> post.bell(0, loud) ? 1 : 0, 0);
     }
 
     static void bellIfItIsSo() {

@@ -106,6 +106,15 @@ public final class BoundaryTryTest {
         Check.same("8 does with a bell by call", post.rest(8, 1, 0), 10);
     }
 
+    static void restsAreBehindHour11() {
+        // x goes to b in hour 11 alone: there both singers rest.
+        SleepPost post = Check.of(LATE);
+        Check.same("the first one's house", post.rests(1, 1), 3);
+        Check.same("a b", post.rest(1, 1, 0), 1);
+        Check.same("b a", post.rest(1, 1, 1), 10);
+        Check.same("b b", post.rest(1, 1, 2), 11);
+    }
+
     static void restsAreOfTonightFromNow() {
         SleepPost post = Check.of(AB + "sleeper x a 0 b;sleeper y b 9 b;sleeper z b 9 b;");
         post.hours(11);
@@ -224,6 +233,13 @@ public final class BoundaryTryTest {
         Check.same("x takes both; z alone would bring one, too", post.need(), 1);
     }
 
+    static void needMayBringMoreThanAll() {
+        // y takes both letters of the bed to b; x alone would bring two, z alone one, as if all did.
+        SleepPost post = Check.of(ROW + "sleeper y a 9 b;sleeper x a 9 d;sleeper z d 9 d;letter x c;letter x d;letter z d;");
+        Check.same("all", post.tried(0, 0), 1);
+        Check.same("x, who brings two", post.need(), 2);
+    }
+
     static void needAtLeastAsMany() {
         // With y none arrives: x alone brings one, more than as if all did.
         Check.same("none", Check.of(ROW + "sleeper y a 9 b;sleeper x a 9 c;letter x c;").need(), 0);
@@ -309,6 +325,59 @@ public final class BoundaryTryTest {
         // What is lit by call stays lit behind a MOON.
         post.lit(1, true);
         Check.same("lit by call", post.chance(5, 0, 3), luck(5, 3, true, new boolean[] {true}));
+    }
+
+    static void aNightBehindAMoonMayBeDark() {
+        // x walks where it is dark alone.
+        SleepPost post = Check.of(AB + "sleeper x a 9 a;letter x b;law pull (1-light)*far*3-far;");
+        for (int n = 1; n <= 4; n++) {
+            long[] state = {31};
+            int lucky = 0;
+            for (int time = 0; time < 10; time++) {
+                boolean arrived = false;
+                for (int night = 0; night < n; night++) {
+                    int dealt = number(state) % 3;
+                    arrived |= dealt != 0;
+                    if (dealt == 1) {
+                        number(state);
+                    }
+                }
+                lucky += arrived ? 1 : 0;
+            }
+            Check.same("nights " + n, post.chance(31, 0, n), lucky);
+        }
+    }
+
+    static void aNightBehindACatMayBeWithoutOne() {
+        // A cat in b wakes x on the way to c.
+        String text = houses(3) + "street a b 1;street b c 1;sleeper x a 2 c;letter x c;";
+        for (int n = 1; n <= 4; n++) {
+            long[] state = {8};
+            int lucky = 0;
+            for (int time = 0; time < 10; time++) {
+                boolean arrived = false;
+                boolean inB = false;
+                for (int night = 0; night < n; night++) {
+                    boolean cat = number(state) % 3 == 1 && number(state) % 3 == 1;
+                    arrived |= !cat && !inB;
+                    inB |= cat && !arrived;
+                }
+                lucky += arrived ? 1 : 0;
+            }
+            Check.same("nights " + n, Check.of(text).chance(8, 0, n), lucky);
+        }
+    }
+
+    static void aMoonLightsTheFirstAndTheLastHouse() {
+        for (int house = 0; house < 8; house++) {
+            // x walks from one house to another if it is lit: to h from a, from h to the others.
+            char from = house == 7 ? 'a' : 'h';
+            char to = (char) ('a' + house);
+            SleepPost post = Check.of(EIGHT + "street " + from + " " + to + " 1;sleeper x " + from + " 9 " + from + ";letter x " + to + ";law pull light*far*3-far;");
+            Check.same("to " + to, post.chance(5, 0, 1), luck(5, 1, true, new boolean[1]));
+            Check.same("all lit, to " + to, post.tried(5, 0), 1);
+            Check.same("as it goes", post.tried(0, 0), 0);
+        }
     }
 
     static void aCatMoreInAHouseWithACat() {
@@ -457,6 +526,32 @@ public final class BoundaryTryTest {
         post.bell(1, 9);
         Check.same("a bell by call", post.tried(0, 0), 0);
         Check.same("no bells, by call too", post.tried(2, 0), 1);
+    }
+
+    static void triedWithoutThemInTheFirstAndTheLastHouse() {
+        for (char h : new char[] {'a', 'h'}) {
+            // x passes the house on the way from its bed to its dream.
+            char bed = h == 'a' ? 'h' : 'a';
+            String row = EIGHT + "street b " + h + " 1;street " + h + " c 1;sleeper x b 2 c;letter x c;";
+            Check.same("as it goes", Check.of(row).tried(0, 0), 1);
+            Check.same("a cat", Check.of(row + "cat " + h + ";").tried(0, 0), 0);
+            Check.same("no cats", Check.of(row + "cat " + h + ";cat " + bed + ";").tried(1, 0), 1);
+            Check.same("no bells", Check.of(row + "bell " + h + " 3;").tried(2, 0), 1);
+            Check.same("no singers", Check.of(row + "corner " + h + " 3;").tried(3, 0), 1);
+        }
+    }
+
+    static void aTryIsOverBehindIt() {
+        SleepPost post = Check.of(AB + "sleeper x a 2 a;letter x b;law pull light*2-far;lamp b 0 11;cat b;");
+        for (int what = 0; what <= 7; what++) {
+            post.tried(what, 0);
+            Check.same("light behind tried(" + what + ", 0)", post.at(1, 0, 0), 1);
+            Check.same("noise", post.at(1, 0, 1), 3);
+            Check.same("far", post.far(0, 1), 1);
+            Check.same("where", post.where(0, 0), 1);
+            Check.same("as it goes", post.tried(0, 0), 1);
+            Check.same("pull", post.law(0, 0, 1), 1);
+        }
     }
 
     static void triedAllDarkAndAllLit() {

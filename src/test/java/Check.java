@@ -4,6 +4,9 @@ import java.lang.reflect.Modifier;
 import java.util.Arrays;
 import java.util.Comparator;
 import java.util.NoSuchElementException;
+import java.util.function.BooleanSupplier;
+import java.util.function.IntSupplier;
+import java.util.function.IntUnaryOperator;
 
 /** What the tests share: a TEXT fed in pieces of twenty bytes, answers compared, the exit code. */
 final class Check {
@@ -74,25 +77,42 @@ final class Check {
         }
     }
 
-    /** What can be asked of the state by call, but for what TONIGHT brings; some 70 calls of a small town. */
+    /** What the calls may change, but for SIGHTS told one by one; some 30 calls of a small town. */
     static String state(SleepPost post) {
         StringBuilder all = new StringBuilder();
-        for (int what = 0; what <= 14; what++) all.append(post.count(what)).append(' ');
-        for (int s = 0; s < post.count(2); s++) for (int i = 0; i < 6; i++) all.append(post.look(s, i)).append(' ');
-        for (int l = 0; l < post.count(3); l++) for (int i = 0; i < 4; i++) all.append(post.letter(l, i)).append(' ');
-        for (int h = 0; h < post.count(0); h++) all.append(post.at(h, post.count(6), 0)).append(' ').append(post.at(h, 0, 1)).append(' ');
+        int[] count = new int[15];
+        for (int what = 0; what < 15; what++) {
+            count[what] = post.count(what);
+            all.append(count[what]).append(' ');
+        }
+        for (int s = 0; s < count[2]; s++) {
+            all.append(post.look(s, 0)).append(' ').append(post.look(s, 4)).append(' ').append(post.look(s, 5)).append(' ');
+        }
+        for (int l = 0; l < count[3]; l++) {
+            all.append(post.letter(l, 1)).append(' ').append(post.letter(l, 2)).append(' ').append(post.letter(l, 3)).append(' ');
+        }
+        for (int h = 0; h < count[0]; h++) {
+            all.append(post.at(h, 0, 1)).append(' ');
+        }
         return all.toString();
     }
 
-    /** The call refuses: it answers so, and all stays. */
-    static void refused(String what, SleepPost post, java.util.function.IntSupplier call, int due) {
+    /** The call refuses each of these: it answers so, and all stays. */
+    static void refused(String what, SleepPost post, int[] wrong, IntUnaryOperator call, int due) {
         String before = state(post);
-        same(what, call.getAsInt(), due);
+        for (int value : wrong) {
+            same(what + " " + value, call.applyAsInt(value), due);
+        }
         same(what + ": all stays", state(post).equals(before), true);
     }
 
-    static void refused(String what, SleepPost post, java.util.function.BooleanSupplier call) {
-        refused(what, post, () -> call.getAsBoolean() ? 1 : 0, 0);
+    /** The call refuses: it answers so, and all stays. */
+    static void refused(String what, SleepPost post, IntSupplier call, int due) {
+        refused(what, post, new int[] {0}, none -> call.getAsInt(), due);
+    }
+
+    static void refused(String what, SleepPost post, BooleanSupplier call) {
+        refused(what, post, new int[] {0}, none -> call.getAsBoolean() ? 1 : 0, 0);
     }
 
     static void same(String what, long got, long due) {
