@@ -276,7 +276,8 @@ public final class BoundaryTextTest {
     static void nothingOfTextsAheadIsLeft() {
         String full = EIGHT + "street a b 5;street b c 9;sleeper x b 1 c;sleeper y a 2 b;letter x a;letter y c;lamp a 0 11;bell a 9;cat a;corner a 9;seed 7;"
             + "law pull light*noise*mail*hour*way;law wake deep<far;law drop 1";
-        String[] others = {"", "house a;", "house z;house y;street z y 1;sleeper x y 1 z;letter x z;", "house a;house b;street a b 2;sleeper x a 0 b;law wake 1;"};
+        String[] others = {"", "house a;", "house z;house y;street z y 1;sleeper x y 1 z;letter x z;", "house a;house b;street a b 2;sleeper x a 0 b;law wake 1;",
+            "house a;house b;street a b 1;sleeper x b 0 a;letter x b;"};
         for (String other : others) {
             for (int kind = 0; kind < 4; kind++) {
                 SleepPost fresh = Check.of(other);
@@ -296,9 +297,9 @@ public final class BoundaryTextTest {
                 for (int what = 0; what < 3; what++) {
                     Check.same("law", used.law(what, 0, 0), fresh.law(what, 0, 0));
                 }
-                used.hours(12);
-                fresh.hours(12);
-                Check.same(kind + ": a night later", Check.state(used).equals(Check.state(fresh)), true);
+                used.hours(1);
+                fresh.hours(1);
+                Check.same(kind + ": an hour later", Check.state(used).equals(Check.state(fresh)), true);
             }
         }
     }

@@ -309,6 +309,21 @@ public final class BoundaryUndoTest {
         Check.same("the next number", post.sight(0, 0, 1), 2);
     }
 
+    /** The reading that NOTES.md tells: KNOWN belongs to the SIGHTS, the TAPE and the latest FAULT to no NIGHT. */
+    static void whatIsKnownTheTapeAndTheFaultStayBehindBack() {
+        SleepPost post = Check.of(TOWN);
+        post.sight(0, 0, 1);
+        post.sight(11, 0, 3);
+        post.keep();
+        post.known(1);
+        Check.tell(post, "house a;house a;");
+        Check.feed(post, "house z;");
+        post.back();
+        Check.same("known by 1", post.count(13), 1);
+        Check.same("the fault", post.fault(0), 3);
+        Check.same("the tape", post.text(8), 1);
+    }
+
     static void theImageIsNotChangedByWhatComes() {
         SleepPost post = Check.of(ROW + "sleeper x a 9 d;letter x b;letter x d;");
         post.keep();
@@ -350,6 +365,27 @@ public final class BoundaryUndoTest {
         post.hours(12);
         post.back();
         Check.same("as kept", Check.state(post).equals(kept), true);
+    }
+
+    // ---- 512 calls ----
+
+    static void the512thCallIsAnswered() {
+        SleepPost post = Check.of(TOWN);
+        int due = post.need();
+        int feedsTextAndNeed = (TOWN.length() + 19) / 20 + 2;
+        for (int calls = feedsTextAndNeed; calls < 510; calls++) {
+            post.lit(calls % 4, calls / 4 % 2 == 0);
+        }
+        post.keep();
+        Check.same("the 512th", post.need(), due);
+    }
+
+    static void fiveHundredQuestionsInARowAreAnsweredAlike() {
+        SleepPost post = Check.of(TOWN);
+        int due = post.chance(1, 0, 9);
+        for (int i = 0; i < 480; i++) {
+            Check.same("question " + i, post.chance(1, 0, 9), due);
+        }
     }
 
     // ---- Promise 35 ----
