@@ -712,14 +712,14 @@ public final class SleepPost {
         private void readNumber() {
             kind = NUMBER;
             value = 0;
-            while (isDigit(next)) {
+            while (next < length && isDigit(next)) {
                 value = Math.min(GREAT, value * 10 + text[next] - '0');
                 next++;
             }
         }
 
         private void readWord() {
-            while (isSmallLetter(next)) {
+            while (next < length && isSmallLetter(next)) {
                 next++;
             }
             int word = wordNumber();

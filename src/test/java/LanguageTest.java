@@ -54,6 +54,7 @@ public final class LanguageTest {
         Check.same("rule 6: throws", count("throw new ", code), 2);
         Check.same("rule 12: rows are made in fields alone", count("(?m)^ {8,}(?! {4}).*= new \\w+\\[", code) + count("(?m)^    private final .*= new \\w+\\[", code),
             count("new \\w+\\[", code));
+        Check.same("rule 9: loops whose own line tells no bound", count("\\b(?:while|for) \\((?![^\n]*(?: [<>]=? |[^;\n]* : ))", code), 0);
         Check.same("lines of a method", longestMethod(code) <= 60, true);
         Check.same("no sign beyond ASCII", count("[^\\x00-\\x7f]", code), 0);
     }
@@ -121,6 +122,8 @@ public final class LanguageTest {
             Check.same("rule 11: fields of " + c + ": " + fields, fields <= 22, true);
             for (Method m : c.getDeclaredMethods()) {
                 Check.same("rule 11: parameters of " + m, m.getParameterCount() <= 7, true);
+                boolean ofFace = FACE.contains(" " + m.getName() + "(");
+                Check.same("rule 1: no name of the face " + m, ofFace && c != SleepPost.class, false);
             }
         }
     }
